@@ -1258,7 +1258,9 @@ public final class TimedJoin {
                 smaller = false;
                 for (int i = 0; i < NAMES; i++) {
                     for (int k = i + 1; k < NAMES; k++) {
-                        smaller |= narrow(i, k);
+                        if (narrow(i, k)) {
+                            smaller = true;
+                        }
                     }
                 }
             }

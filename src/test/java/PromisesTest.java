@@ -420,6 +420,12 @@ public final class PromisesTest {
         due("pairs of kind 2", x.pair(NONE, 0), 1);
         due("left", x.pair(0, 0), 0);
         due("right", x.pair(0, 1), 3);
+        promise = "15";
+        x.sweep();
+        int[] begun = {0, 18, 5, 5, 5, 0, 0, 0};
+        for (int what = 0; what < 8; what++) {
+            due("swept(" + what + ") of a later sweep", x.swept(what), begun[what]);
+        }
     }
 
     private void rowsAndKinds() {
@@ -585,6 +591,18 @@ public final class PromisesTest {
         due("depth", x.row(0, 0, 7), 2);
         x.set(1, 2044 - 128);
         pieceIs(x, 0, 0, new int[] {0, 0, 0}, new int[] {0, 5, NONE}, new int[] {5, 5, 1}, new int[] {5, 10, NONE});
+        TimedJoin y = new TimedJoin();
+        y.add(0, 0, 0, 0, 1000, 0);
+        for (int k = 0; k < 40; k++) {
+            y.add(1, 0, 0, 10 * k + 5, 10 * k + 8, 0);
+        }
+        due("the most pieces", y.row(0, 0, 8), 81);
+        due("the last of them", y.piece(0, 0, 80, 1), 1000);
+        due("the last but one", y.piece(0, 0, 79, 2), 39);
+        promise = "17";
+        due("left over of all", y.left(0, NONE, 0), 41);
+        promise = "25";
+        due("the most parts", y.split(0, 0, NONE, 0), 81);
         promise = "17";
         due("left over of all", x.left(0, NONE, 0), 2);
         due("the second from", x.left(0, 1, 1), 5);
@@ -668,6 +686,12 @@ public final class PromisesTest {
         x.add(1, 2, 3, -7, -7, 0);
         due("not the first of all", x.crowd(1, 1), 5);
         due("below 0", x.crowd(3, 1), -7);
+        x.add(1, 2, 4, 9, 10, 0);
+        x.add(0, 2, 4, 15, 16, 0);
+        x.add(1, 3, 4, 3, 4, 0);
+        x.add(1, 3, 4, 13, 14, 0);
+        due("as many at several times", x.crowd(4, 0), 1);
+        due("the first of them", x.crowd(4, 1), 3);
     }
 
     private void oneIs(TimedJoin x, int side, int[]... spans) {
@@ -786,6 +810,9 @@ public final class PromisesTest {
         due("matched(2, true)", x.matched(2, true), NONE);
         due("matched(-1, false)", x.matched(-1, false), NONE);
         due("all 40", full(0, 40).matched(0, false), (1L << 40) - 1);
+        x.add(1, 1, 2, 9, 9, 0);
+        due("of a row that came later", x.matched(0, true), 15);
+        due("of a row that came later", x.matched(1, true), 31);
         x.set(1, 4);
         due("of kind 2", x.matched(0, true), 1);
         due("of kind 2", x.matched(1, true), 8);
@@ -804,6 +831,12 @@ public final class PromisesTest {
             due("no row", x.lane(0, odd), NONE);
             due("no side", x.lane(odd, 0), NONE);
         }
+        x.add(1, 0, 4, 15, 20, 0);
+        x.add(1, 2, 4, 10, 16, 0);
+        x.add(1, 2, 4, 16, 18, 0);
+        due("by their starts, not by their numbers", x.lane(1, 5), 0);
+        due("by their starts, not by their numbers", x.lane(1, 4), 1);
+        due("next to one that has ended", x.lane(1, 6), 0);
         TimedJoin many = new TimedJoin();
         for (int k = 0; k < 40; k++) {
             many.add(0, 0, 0, 7, 7, 0);
@@ -922,6 +955,14 @@ public final class PromisesTest {
         due("free", y.between(0, 5, true), 8191);
         promise = "34";
         due("sound", y.sound(), 1);
+        promise = "33";
+        TimedJoin z = new TimedJoin();
+        z.net(0, 5, 1);
+        for (int name = 5; name > 1; name--) {
+            z.net(name, name - 1, 1);
+        }
+        due("through all", z.between(0, 1, true), 1);
+        due("through all, the other way round", z.between(1, 0, true), 4096);
     }
 
     private void layings() {
@@ -967,13 +1008,16 @@ public final class PromisesTest {
             x.step(160);
             x.set(0, 0);
             x.set(1, 4);
-            x.add(0, 2, 3, 50, 60, 0);
-            x.add(1, 2, 3, 50, 60, 0);
+            x.add(0, 2, 3, -50, 60, 0);
+            x.add(1, 2, 3, -50, 60, 0);
             x.clear();
+            x.batch(8, 8, 8, 8, 8);
             x.net(1, 2, 1);
+            x.sound();
+            x.set(1, 2044);
             x.sweep();
-            x.step(1);
-            x.leave();
+            x.step(160);
+            x.set(8, round);
             due("a row more", x.look(2), 5);
             due("gone back", x.image(false), true);
             int[] look = {1, 2044, 4, 4, 1, 1, 4, 3, 2, 2};
@@ -1023,5 +1067,13 @@ public final class PromisesTest {
         }
         x.set(0, 0);
         due("the most partners across keys", x.look(7), 4);
+        for (int k = 0; k < 9; k++) {
+            x.add(1, 1, 7, 5, 9, 0);
+        }
+        due("the most partners, of the left", x.look(7), 13);
+        for (int k = 0; k < 20; k++) {
+            x.add(0, 2, 7, 6, 7, 0);
+        }
+        due("the most partners, of the right", x.look(7), 24);
     }
 }
