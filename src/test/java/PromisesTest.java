@@ -596,6 +596,8 @@ public final class PromisesTest {
         for (int k = 0; k < 40; k++) {
             y.add(1, 0, 0, 10 * k + 5, 10 * k + 8, 0);
         }
+        due("partners, all of the other side", y.row(0, 0, 6), 40);
+        due("one at once", y.row(0, 0, 7), 1);
         due("the most pieces", y.row(0, 0, 8), 81);
         due("the last of them", y.piece(0, 0, 80, 1), 1000);
         due("the last but one", y.piece(0, 0, 79, 2), 39);
@@ -728,6 +730,9 @@ public final class PromisesTest {
         y.add(1, 0, 4, 8, 9, -2);
         oneIs(y, 1, new int[] {3, 7, 7, Integer.MIN_VALUE, 1}, new int[] {3, 7, 7, Integer.MAX_VALUE, 1},
             new int[] {4, 0, 4, -2, 3}, new int[] {4, 0, 9, -1, 1}, new int[] {4, 5, 5, -2, 1}, new int[] {4, 6, 9, -2, 3});
+        y.add(0, 0, 0, -9, -9, NO_SUCH);
+        y.add(0, 0, 0, -7, -7, NO_SUCH);
+        oneIs(y, 0, new int[] {0, -9, -9, NO_SUCH, 1}, new int[] {0, -7, -7, NO_SUCH, 1});
     }
 
     private void stepsAndSplits() {
