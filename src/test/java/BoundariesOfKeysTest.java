@@ -180,6 +180,9 @@ public final class BoundariesOfKeysTest {
         x.set(0, 0);
         x.set(1, 0);
         crowdIs("settings are nothing to it", x, 2, 4);
+        TimedJoin meets = rows(4, 5);
+        meets.add(0, 1, 0, 2, 4, 0);
+        crowdIs("the first such time, of one that ends at the other", meets, 1, 2);
         TimedJoin all = new TimedJoin();
         for (int k = 0; k < 40; k++) {
             all.add(0, 0, 0, 0, 9, 0);
@@ -351,6 +354,8 @@ public final class BoundariesOfKeysTest {
         x.set(0, 0);
         x.set(1, 0);
         stepsAre("settings are nothing to it", x, 0, 0, 3, 1, 10, 3, 5, 2, 11, 5, 8, 1, 1);
+        stepsAre("another KEY behind it", x, 6, 1, 2, 1, 10);
+        stepsAre("the KEY again", x, 0, 0, 3, 1, 10, 3, 5, 2, 11, 5, 8, 1, 1);
     }
 
     private void stepsOfEmpties() {

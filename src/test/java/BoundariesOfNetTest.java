@@ -395,11 +395,14 @@ public final class BoundariesOfNetTest {
         for (int what = 0; what < 10; what++) {
             s.due("look(" + what + ")", x.look(what), looks[what]);
         }
-        s.due("VALUE of the last of the LEFT", x.row(0, 39, 4), 78);
-        s.due("VALUE of the last of the RIGHT", x.row(1, 39, 4), 117);
+        int[][] last = {{0, 0, 39, 39, 78}, {3, 9, 39, 40, 117}};
+        for (int side = 0; side < 2; side++) {
+            for (int what = 0; what < 5; what++) {
+                s.due("row(" + side + ", 39, " + what + ")", x.row(side, 39, what), last[side][what]);
+            }
+        }
         s.due("THE NET", x.between(5, 4, false), 4096 + 2048);
         s.due("THE NET of the first", x.between(0, 1, false), 8191);
-        x.image(false);
         TimedJoin y = Sentences.inARow(0, 1);
         y.batch(7, 6, 5, 4, 3);
         y.image(true);
@@ -456,9 +459,11 @@ public final class BoundariesOfNetTest {
         x.image(true);
         for (int round = 0; round < 3; round++) {
             s.due("a third", x.add(0, 0, 0, 5 + round, 9, round), 2);
+            s.due("one of the RIGHT", x.add(1, 0, 0, 5, 9, round), 0);
             s.due("a set between", x.net(0, 1, 1 << round), true);
             s.due("gone back", x.image(false), true);
             s.due("two ROWS", x.look(2), 2);
+            s.due("none of the RIGHT", x.look(3), 0);
             s.due("THE NET", x.between(0, 1, false), 8191);
         }
         s.due("again, with nothing told since", x.image(false), true);
@@ -487,6 +492,14 @@ public final class BoundariesOfNetTest {
         s.due("SOUND behind a change", x.sound(), 1);
         x.image(false);
         s.due("not SOUND as it was", x.sound(), 0);
+        TimedJoin z = new TimedJoin();
+        z.net(0, 1, 1);
+        z.image(true);
+        z.net(1, 2, 0);
+        s.due("not SOUND behind a change", z.sound(), 0);
+        z.image(false);
+        s.due("SOUND, asked for the first time behind it", z.sound(), 1);
+        s.due("TIGHT, asked for the first time behind it", z.between(1, 2, true), 8191);
         TimedJoin y = new TimedJoin();
         y.set(5, 5);
         y.image(true);
@@ -529,6 +542,13 @@ public final class BoundariesOfNetTest {
         s.due("still one RUN", x.look(9), 1);
         x.add(1, 1, 0, 4, 9, 0);
         s.due("the one of the RIGHT has the most", x.look(7), 8);
+        TimedJoin keys = new TimedJoin();
+        keys.set(0, 0);
+        keys.add(0, 0, 7, -5, 5, 0);
+        s.due("no ROWS of the RIGHT, KEYED is 0", keys.look(7), 0);
+        keys.set(0, 1);
+        keys.add(1, 0, 0, -5, 5, 0);
+        s.due("one of another KEY", keys.look(7), 0);
         TimedJoin all = new TimedJoin();
         for (int k = 0; k < 40; k++) {
             all.add(0, 0, 0, 0, 5, 0);

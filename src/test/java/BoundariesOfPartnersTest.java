@@ -13,6 +13,7 @@ public final class BoundariesOfPartnersTest {
         test.rowsThatAreNone();
         test.rowsThatAreEmptyOrLong();
         test.partnersNoneAndAll();
+        test.nobodyOnTheOtherSide();
         test.depthAtOnce();
         test.coverOfNobody();
         test.kindsByEnds();
@@ -127,6 +128,33 @@ public final class BoundariesOfPartnersTest {
         rowIs("40 PARTNERS", x, 0, 0, 6, 40, 40, 1, 0, 5);
         x.set(1, 0);
         rowIs("KINDS is the empty set", x, 0, 0, 6, 0, 0, 1, 1, 0);
+    }
+
+    /** KEYED 0, so that no KEY, and around time 0, so that no place, keeps away what is not there. */
+    private void nobodyOnTheOtherSide() {
+        for (int side = 0; side < 2; side++) {
+            TimedJoin x = new TimedJoin();
+            x.set(0, 0);
+            x.add(side, 0, 0, -5, 5, 0);
+            x.add(side, 0, 0, 0, 0, 0);
+            s.says(11, "PARTNERS: a ROW of the LEFT, one of the RIGHT");
+            rowIs("of " + side, x, side, 0, 6, 0, 0, 1, 1, 0);
+            rowIs("EMPTY, of " + side, x, side, 1, 6, 0, 0, 1, 1, 0);
+            s.says(16, "is there none: a PIECE by nobody");
+            piecesAre("of " + side, x, side, 0, -5, 5, NONE);
+            s.says(18, "How many PARTNERS there are in all");
+            for (int kind = 0; kind < 13; kind++) {
+                s.due("kinds(" + kind + ") of " + side, x.kinds(kind), 0);
+            }
+            s.says(25, "2 how many PARTNERS are there");
+            partsAre("of " + side, x, side, 0, -5, 5, 0);
+            s.says(26, "NONE if there is none (such).");
+            s.due("of " + side, x.latest(side, 0), NONE);
+            s.due("EMPTY, of " + side, x.latest(side, 1), NONE);
+            s.says(27, "ROWS of a SIDE that have PARTNERS (has), or none");
+            s.due("has, of " + side, x.matched(side, true), 0);
+            s.due("has none, of " + side, x.matched(side, false), 3);
+        }
     }
 
     private void depthAtOnce() {
@@ -407,10 +435,13 @@ public final class BoundariesOfPartnersTest {
         for (int kind = 0; kind < 13; kind++) {
             s.due("no ROWS of the RIGHT", left.kinds(kind), 0);
         }
-        for (int k = 0; k < 40; k++) {
+        left.add(1, 0, 0, 38, 39, 0);
+        s.due("40 of the LEFT, one of the RIGHT", left.kinds(0), 37);
+        s.due("40 of the LEFT, one of the RIGHT, the last", left.kinds(11), 1);
+        for (int k = 0; k < 39; k++) {
             left.add(1, 0, 0, 100, 101, 0);
         }
-        s.due("all there can be", left.kinds(0), 1600);
+        s.due("all there can be", left.kinds(0), 37 + 39 * 40);
     }
 
     // ---- promise 19
@@ -433,6 +464,11 @@ public final class BoundariesOfPartnersTest {
         s.due("shared(NONE) across KEYS", x.shared(NONE), 12);
         x.set(1, 0);
         s.due("KINDS is the empty set", x.shared(NONE), 0);
+        TimedJoin y = against(0, 5);
+        y.add(1, 0, 9, 0, 4, 0);
+        y.set(0, 0);
+        s.due("a KEY of the LEFT", y.shared(0), 4);
+        s.due("a KEY of the RIGHT alone", y.shared(9), 0);
     }
 
     private void sharedOfMany() {
@@ -440,6 +476,14 @@ public final class BoundariesOfPartnersTest {
         s.due("an EMPTY one", against(0, 5, 3, 3).shared(NONE), 0);
         s.due("EMPTY ones alike", against(3, 3, 3, 3).shared(NONE), 0);
         s.due("one that only meets", against(0, 5, 5, 9).shared(NONE), 0);
+        s.due("more of the RIGHT", against(0, 9, 0, 1, 2, 4, 5, 8).shared(NONE), 6);
+        TimedJoin left = Sentences.inARow(0, 40);
+        left.add(1, 0, 0, 30, 40, 0);
+        s.due("more of the LEFT", left.shared(NONE), 10);
+        left.set(1, 512);
+        s.due("by no KIND, LEFT ahead", left.shared(NONE), 0);
+        left.set(1, 8);
+        s.due("by a KIND, LEFT ahead", left.shared(NONE), 1);
         s.due("all time", against(-1000000, 1000000, -1000000, 1000000).shared(0), 2000000);
         TimedJoin x = new TimedJoin();
         for (int k = 0; k < 40; k++) {
@@ -552,6 +596,14 @@ public final class BoundariesOfPartnersTest {
         TimedJoin runs = against(5, 9, 3, 3);
         runs.add(1, 1, 0, 2, 9, 0);
         s.due("one told later", runs.latest(0, 0), 0);
+        s.due("one that has ended, another that has not", against(5, 9, 3, 9, 4, 4).latest(0, 0), 1);
+        TimedJoin left = Sentences.inARow(0, 40);
+        left.add(1, 0, 0, 7, 7, 0);
+        left.add(1, 0, 0, 1000000, 1000000, 0);
+        s.due("of the RIGHT, alike", left.latest(1, 0), 7);
+        s.due("of the RIGHT, all are ahead", left.latest(1, 1), 39);
+        s.due("of the LEFT, the only one ahead", left.latest(0, 39), 0);
+        s.due("of the LEFT, none is ahead", left.latest(0, 6), NONE);
         s.says(26, "(of its KEY, if KEYED is 1)");
         TimedJoin x = against(5, 9, 3, 3);
         x.add(1, 0, 7, 4, 4, 0);
