@@ -22,6 +22,10 @@ final class Check {
         due(call, got ? 1L : 0L, want ? 1L : 0L);
     }
 
+    int asked() {
+        return asked;
+    }
+
     boolean isWrong() {
         return wrong != 0;
     }

@@ -37,24 +37,22 @@ public final class RunsTest {
         System.out.println("RunsTest: " + calls + " answers, 0 not as due");
     }
 
+    /** Up to 512 calls, behind which nothing is promised; a turn has one or two of them. */
     private int play() {
-        int calls = 0;
         int opening = crowded ? 100 : 5 + dice.nextInt(40);
-        for (int c = 0; c < 512; c++) {
-            if (c < opening) {
+        for (int turn = 0; check.asked() < 511 && !check.isWrong(); turn++) {
+            if (turn < opening) {
                 tell();
             } else if (dice.nextInt(5) == 0) {
                 change();
             } else {
                 ask();
             }
-            calls++;
-            if (check.isWrong()) {
-                System.out.println("seed " + seed + ", call " + c);
-                return calls;
-            }
         }
-        return calls;
+        if (check.isWrong()) {
+            System.out.println("seed " + seed + ", call " + check.asked());
+        }
+        return check.asked();
     }
 
     private int from(int least, int most) {
