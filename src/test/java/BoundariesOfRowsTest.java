@@ -20,6 +20,7 @@ public final class BoundariesOfRowsTest {
         test.clearing();
         test.loadOfAll();
         test.loadOfNone();
+        test.loadAllOrNone();
         test.loadAndOrder();
         test.loadOfTooMany();
         test.loadToNoSide();
@@ -34,6 +35,7 @@ public final class BoundariesOfRowsTest {
         test.addInASweep();
         test.troubleOfNone();
         test.troubleOfThoseAlone();
+        test.troubleNumbers();
         test.s.end(1, 2, 3, 4, 5, 6, 7);
     }
 
@@ -278,6 +280,26 @@ public final class BoundariesOfRowsTest {
             s.due("cause " + r[4], x.load(0), NONE);
             s.causes("cause " + r[4], x, 1, 2, 2, 1, r[4], r[5]);
         }
+    }
+
+    private void loadAllOrNone() {
+        s.says(5, "THE BATCH: ROWS told (40 at most), for a SIDE all of them come or none.");
+        TimedJoin x = new TimedJoin();
+        for (int k = 0; k < 40; k++) {
+            x.batch(0, k == 39 ? 10 : 9, k, k, k);
+        }
+        s.due("the last of 40 is wrong", x.load(0), NONE);
+        s.due("none came to the LEFT", x.look(2), 0);
+        s.due("none came to the RIGHT", x.look(3), 0);
+        s.says(5, "1 LOAD (how many are in THE BATCH), 2 ROW (its place in THE BATCH, from 0; by add() 0)");
+        s.causes("the last of 40 is wrong", x, 1, 40, 2, 39, 4, 10);
+        x.clear();
+        x.batch(0, 10, 0, 0, 0);
+        x.load(0);
+        s.causes("the only one is wrong", x, 1, 1, 2, 0, 4, 10);
+        x.add(0, 0, 0, 0, 0, 0);
+        x.add(0, 0, 10, 0, 0, 0);
+        s.causes("by add(), with ROWS and THE BATCH there", x, 2, 0, 4, 10);
     }
 
     private void loadAndOrder() {
@@ -525,6 +547,29 @@ public final class BoundariesOfRowsTest {
             case 2: x.add(0, 9, 0, 0, 0, 0); break;
             default: x.load(0);
         }
+    }
+
+    private void troubleNumbers() {
+        s.says(7, "8 SWEEPING (EVENTS that are gone), 9 SETTING (what).");
+        TimedJoin x = new TimedJoin();
+        for (int k = 0; k < 40; k++) {
+            x.add(0, 0, 0, k, k, 0);
+            x.add(1, 0, 0, k, k, 0);
+        }
+        x.sweep();
+        x.add(0, 0, 0, 99, 99, 0);
+        s.causes("none is gone", x, 8, 0);
+        x.step(159);
+        x.sweep();
+        s.causes("all but one are gone", x, 8, 159);
+        x.set(1, 0);
+        s.causes("set() of KINDS", x, 9, 1, 8, 159);
+        x.set(LEAST, 0);
+        s.causes("set() of the least what", x, 9, LEAST);
+        x.set(NONE, 0);
+        s.causes("set() of what NONE", x, 9, NONE);
+        x.set(MOST, 0);
+        s.causes("set() of the greatest what", x, 9, MOST);
     }
 
     private void troubleOfThoseAlone() {

@@ -24,11 +24,14 @@ public final class BoundariesOfSweepTest {
         test.activeWithoutGaps();
         test.pairsOfNone();
         test.pairsThatAreEmpty();
+        test.pairsByKinds();
+        test.timesOfPlaces();
         test.pairsAtTheBounds();
         test.theMostPairs();
         test.sweptOfAnotherWhat();
         test.placeOfTheLatest();
         test.headsThatWereThere();
+        test.heldTogether();
         test.theMostHeld();
         test.lastCameToAnotherPlace();
         test.s.end(8, 9, 10, 13, 14, 15);
@@ -380,6 +383,32 @@ public final class BoundariesOfSweepTest {
         }
     }
 
+    private void pairsByKinds() {
+        s.says(14, "They SHARE by 2 .. 10.");
+        int[][] spans = {
+            {0, 2}, {0, 4}, {0, 6}, {4, 6}, {5, 6}, {5, 8}, {4, 8}, {2, 8}, {2, 9}, {4, 9}, {6, 9}, {8, 9}, {9, 10}};
+        for (int kind = 0; kind < 13; kind++) {
+            TimedJoin x = Sentences.two(spans[kind][0], spans[kind][1], 4, 8);
+            x.sweep();
+            x.step(160);
+            boolean shares = kind >= 2 && kind <= 10;
+            s.due("KIND", x.kind(0, 0, 1, 0), kind);
+            s.due("PAIRS of kind " + kind, x.pair(NONE, 0), shares ? 1 : 0);
+            s.due("PAIR of kind " + kind, x.pair(0, 2), shares ? kind : NO_SUCH);
+            for (int other = 2; other <= 10; other++) {
+                x.set(1, 1 << other);
+                s.due("PARTNERS of kind " + kind + ", KINDS is " + other, x.row(0, 0, 6), other == kind ? 1 : 0);
+            }
+        }
+    }
+
+    private void timesOfPlaces() {
+        s.says(14, "(the time of the places 2 t, 2 t and 1 is t)");
+        for (int t : new int[] {-1000000, -999999, -2, -1, 0, 1, 2, 999999, 1000000}) {
+            pairIs("both EMPTY at " + t, Sentences.two(t, t, t, t), 0, 0, 6, t, t, 0);
+        }
+    }
+
     private void pairsAtTheBounds() {
         s.says(14, "3 the START, 4 the END, 5 LONG of what is SHARED");
         pairIs("all time", Sentences.two(-1000000, 1000000, -1000000, 1000000), 0, 0, 6, -1000000, 1000000, 2000000);
@@ -475,6 +504,19 @@ public final class BoundariesOfSweepTest {
         x.step(9);
         s.due("none", x.swept(2), 0);
         s.due("the last EVENT is to come", x.swept(1), 1);
+    }
+
+    private void heldTogether() {
+        s.says(15, "HELD: ACTIVE of both SIDES and HEADS together.");
+        TimedJoin x = Sentences.two(0, 5, 0, 6);
+        x.add(0, 0, 0, 7, 7, 0);
+        x.sweep();
+        int[] held = {2, 3, 3, 2, 1, 1, 0};
+        for (int gone = 0; gone <= 6; gone++) {
+            s.due("behind " + gone, x.swept(3), held[gone]);
+            s.due("both together behind " + gone, x.active(0, NONE) + x.active(1, NONE) + x.swept(2), held[gone]);
+            x.step(1);
+        }
     }
 
     private void theMostHeld() {
