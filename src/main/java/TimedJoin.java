@@ -38,6 +38,8 @@ public final class TimedJoin {
 
     /** Makes every place positive, so that codes built from places sort as the places do. */
     private static final int PLACE_SHIFT = 2 * TIME_BOUND;
+    /** The same for VALUES: the least of them comes to 0. */
+    private static final long VALUE_SHIFT = 2147483648L;
 
     /** COMPOSED of single KINDS: the set of a, c stands at (kind of a, b) * 13 + (kind of b, c). */
     private static final int[] COMPOSED = {
@@ -515,7 +517,7 @@ public final class TimedJoin {
         codes.empty();
         for (int k = 0; k < rows.count; k++) {
             if (rows.key[k] == key) {
-                long value = (long) rows.value[k] - Integer.MIN_VALUE;
+                long value = rows.value[k] + VALUE_SHIFT;
                 codes.put(((long) (rows.startPlace(k) + PLACE_SHIFT) << 38) + (value << 6) + k);
             }
         }

@@ -23,6 +23,7 @@ public final class BoundariesOfNetTest {
         test.betweenAsTold();
         test.tightOfThree();
         test.tightAsLongAsSmaller();
+        test.tightWhereAllAreSmaller();
         test.soundOrNot();
         test.layThatCannotBe();
         test.layOfNames();
@@ -252,6 +253,33 @@ public final class BoundariesOfNetTest {
         }
     }
 
+    /** All fifteen sets are smaller once each has been looked at, and still it is not at its end. */
+    private void tightWhereAllAreSmaller() {
+        s.says(33, "as long as any of three is smaller by it");
+        int[] told = {1064, 2592, 4101, 516, 290, 2052, 513, 640, 324, 2065, 784, 129, 5, 4099, 4112};
+        int[] due = {1024, 32, 4096, 512, 32, 4, 512, 128, 4, 2048, 256, 128, 1, 1, 16};
+        TimedJoin x = new TimedJoin();
+        TimedJoin y = new TimedJoin();
+        int n = 0;
+        for (int i = 0; i < 6; i++) {
+            for (int k = i + 1; k < 6; k++) {
+                x.net(i, k, told[n]);
+                y.net(i, k, due[n]);
+                n++;
+            }
+        }
+        n = 0;
+        for (int i = 0; i < 6; i++) {
+            for (int k = i + 1; k < 6; k++) {
+                s.due("between " + i + " and " + k, x.between(i, k, true), due[n]);
+                s.due("and the other way round", x.between(k, i, true), x.converse(due[n]));
+                s.due("told so, none is smaller", y.between(i, k, true), due[n]);
+                n++;
+            }
+        }
+        s.due("SOUND", x.sound(), 1);
+    }
+
     // ---- promise 34
 
     private void soundOrNot() {
@@ -411,6 +439,22 @@ public final class BoundariesOfNetTest {
         y.image(false);
         y.load(0);
         s.causes("THE BATCH as it was told", y, 1, 1, 2, 0, 3, 7);
+        TimedJoin z = new TimedJoin();
+        z.batch(1, 2, 3, 4, 5);
+        z.batch(2, 3, 6, 8, -7);
+        z.image(true);
+        z.load(0);
+        z.batch(3, 4, 10, 20, 30);
+        z.batch(0, 1, 11, 22, 33);
+        z.batch(0, 1, 12, 23, 34);
+        z.image(false);
+        s.due("THE BATCH comes as it was told", z.load(1), 2);
+        int[][] told = {{1, 2, 3, 4, 5}, {2, 3, 6, 8, -7}};
+        for (int row = 0; row < 2; row++) {
+            for (int what = 0; what < 5; what++) {
+                s.due("row(1, " + row + ", " + what + ")", z.row(1, row, what), told[row][what]);
+            }
+        }
     }
 
     private void imageInASweep() {

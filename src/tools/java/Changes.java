@@ -35,7 +35,7 @@ public final class Changes {
         {"\\bLEFT\\b", "RIGHT"}, {"\\bRIGHT\\b", "LEFT"}, {"\\bstart\\b", "end"}, {"\\bend\\b", "start"},
         {"startPlace", "endPlace"}, {"endPlace", "startPlace"}, {"ofLeft", "ofRight"}, {"ofRight", "ofLeft"},
         {"^( +)(?!return|break|continue|final|private|boolean|int|long|Rows|State|Codes|Course|Trouble)[\\w.\\[\\]() *+-]+( [-+|&]?= .*)?;$", "$1;"},
-        {"^( +)[a-z][\\w.]*\\(.*\\);$", "$1;"}};
+        {"^( +)[A-Za-z][\\w.]*\\(.*\\);$", "$1;"}};
 
     private final List<String> lines;
     private final List<String> tests;
@@ -118,7 +118,9 @@ public final class Changes {
         } else if (answer.equals("impossible")) {
             impossible++;
         } else {
-            System.out.println("line " + (change.line + 1) + ": " + change.before.strip() + "   ->   " + change.after.strip());
+            // A test that is late may be one that never ends, or just a long one: the reader has to tell.
+            String late = answer.equals("late") ? "late: " : "";
+            System.out.println(late + "line " + (change.line + 1) + ": " + change.before.strip() + "   ->   " + change.after.strip());
         }
     }
 
@@ -147,7 +149,7 @@ public final class Changes {
                 .redirectErrorStream(true).redirectOutput(ProcessBuilder.Redirect.DISCARD).start();
             if (!p.waitFor(PATIENCE_SECONDS, TimeUnit.SECONDS)) {
                 p.destroyForcibly();
-                return "seen";
+                return "late";
             }
             if (p.exitValue() != 0) {
                 return "seen";
